@@ -1,0 +1,101 @@
+import java.lang.reflect.Constructor;
+import java.lang.reflect.Field;
+import java.lang.reflect.Method;
+import java.lang.reflect.Modifier;
+import java.util.Arrays;
+import java.util.HashSet;
+import java.util.Set;
+import java.util.TreeSet;
+import java.util.stream.Collectors;
+
+/** The public face: the document's, with its exceptions, and nothing more. */
+public final class FaceTest {
+    private static final String IAE = "IllegalArgumentException";
+    private static final String ISE = "IllegalStateException";
+    private static final String UOE = "UnsupportedOperationException";
+    private static final String NSE = "NoSuchElementException";
+    private static final String IOB = "IndexOutOfBoundsException";
+    private static final String[] METHODS = {
+        "int feed(long, int) " + IAE + " " + UOE,
+        "int pool()",
+        "int store(int, long, int) " + IAE + " " + ISE + " " + UOE,
+        "int refresh() " + ISE + " " + UOE,
+        "int empty(int) " + IAE + " " + ISE,
+        "int rebuild(int, int) " + IAE + " " + ISE + " " + UOE,
+        "void stopAfter(int) " + IAE,
+        "int resume()",
+        "boolean stopped()",
+        "long restore(int, int) " + IAE + " " + NSE + " " + ISE,
+        "int length(int) " + IAE,
+        "int share(int, int, int) " + IAE + " " + NSE + " " + IOB,
+        "int forget(int) " + IAE + " " + NSE + " " + ISE,
+        "int need(int) " + IAE,
+        "int files()",
+        "int epoch()",
+        "int sent()",
+        "int message(int, int) " + IOB + " " + IAE,
+    };
+
+    public static void main(String[] args) {
+        Check check = new Check();
+        Class<?> face = SplitVault.class;
+        check.due("public and final", Modifier.PUBLIC | Modifier.FINAL,
+                face.getModifiers() & (Modifier.PUBLIC | Modifier.FINAL));
+        methods(check, face);
+        constructors(check, face);
+        fields(check, face);
+        for (Class<?> inside : face.getDeclaredClasses()) {
+            check.due(inside + " is static", true, Modifier.isStatic(inside.getModifiers()));
+        }
+        check.end();
+    }
+
+    private static void methods(Check check, Class<?> face) {
+        Set<String> open = new TreeSet<>();
+        Set<String> openNames = new HashSet<>();
+        for (Method m : face.getDeclaredMethods()) {
+            if (!Modifier.isPrivate(m.getModifiers())) {
+                open.add(told(m));
+                openNames.add(m.getName());
+            }
+        }
+        check.due("methods", new TreeSet<>(Arrays.asList(METHODS)).toString(), open.toString());
+        for (Method m : face.getDeclaredMethods()) {
+            if (Modifier.isPrivate(m.getModifiers())) {
+                check.due("a private " + m.getName(), false, openNames.contains(m.getName()));
+            } else {
+                check.due(m.getName() + " is public", true, Modifier.isPublic(m.getModifiers()));
+            }
+        }
+    }
+
+    private static String told(Method m) {
+        String text = m.getReturnType() + " " + m.getName() + "(" + names(m.getParameterTypes(), ", ") + ")";
+        return (text + " " + names(m.getExceptionTypes(), " ")).trim();
+    }
+
+    private static String names(Class<?>[] types, String between) {
+        return Arrays.stream(types).map(Class::getSimpleName).collect(Collectors.joining(between));
+    }
+
+    private static void constructors(Check check, Class<?> face) {
+        check.due("constructors", 1, face.getDeclaredConstructors().length);
+        Constructor<?> only = face.getDeclaredConstructors()[0];
+        check.due("the constructor is public", true, Modifier.isPublic(only.getModifiers()));
+        check.due("its parameters", "int, int", names(only.getParameterTypes(), ", "));
+    }
+
+    private static void fields(Check check, Class<?> face) {
+        Set<String> open = new TreeSet<>();
+        for (Field f : face.getDeclaredFields()) {
+            if (!Modifier.isPrivate(f.getModifiers())) {
+                open.add(Modifier.toString(f.getModifiers()) + " " + f.getType() + " " + f.getName());
+            }
+        }
+        check.due("constants", "[public static final int FLIP, public static final int NONE, "
+                + "public static final int TIDY]", open.toString());
+        check.due("NONE", -1, SplitVault.NONE);
+        check.due("FLIP", 256, SplitVault.FLIP);
+        check.due("TIDY", 257, SplitVault.TIDY);
+    }
+}
