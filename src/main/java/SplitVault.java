@@ -486,7 +486,6 @@ public final class SplitVault {
             limit = wish;
             wish = NO_STOP;
             sentNow = 0;
-            hasFlipped = false;
         }
 
         boolean send(int sender, int receiver, int content) {
@@ -549,14 +548,15 @@ public final class SplitVault {
         /** Weighs the helpers for the value at a place that is none of theirs. */
         void weigh(int place) {
             for (int g = 0; g < numbers.length; g++) {
-                int weight = 1;
+                int above = 1;
+                int below = 1;
                 for (int h = 0; h < numbers.length; h++) {
                     if (h != g) {
-                        int factor = Bytes.quotient(place ^ numbers[h], numbers[g] ^ numbers[h]);
-                        weight = Bytes.product(weight, factor);
+                        above = Bytes.product(above, place ^ numbers[h]);
+                        below = Bytes.product(below, numbers[g] ^ numbers[h]);
                     }
                 }
-                weights[g] = weight;
+                weights[g] = Bytes.quotient(above, below);
             }
         }
 

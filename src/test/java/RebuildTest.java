@@ -6,6 +6,7 @@ public final class RebuildTest {
         sizes(check);
         helpersOfTheMask(check);
         noFiles(check);
+        behindADroppedRefreshing(check);
         wrongInputs(check);
         wrongStates(check);
         check.end();
@@ -67,6 +68,17 @@ public final class RebuildTest {
         check.due("rebuild with no file", 2, x.rebuild(2, -1));
         check.due("messages", "0>2:257 0>0:256", View.messages(x, 64));
         check.due("empty again", 3, x.empty(2));
+    }
+
+    private static void behindADroppedRefreshing(Check check) {
+        SplitVault x = Vaults.small();
+        x.feed(0x422170, 3);
+        x.stopAfter(3);
+        x.refresh();
+        x.resume();
+        x.empty(3);
+        check.due("rebuild", 8, x.rebuild(3, -1));
+        check.due("shares", "2 11 12", Vaults.shares(x, 3, 0, 0));
     }
 
     private static void wrongInputs(Check check) {

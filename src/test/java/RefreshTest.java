@@ -5,6 +5,7 @@ public final class RefreshTest {
         small(check);
         filesByNumber(check);
         noFiles(check);
+        behindADroppedOne(check);
         wrongStates(check);
         check.end();
     }
@@ -45,6 +46,18 @@ public final class RefreshTest {
         SplitVault x = new SplitVault(2, 4);
         check.due("refresh of nothing", 5, x.refresh());
         check.due("messages", "0>4:257 0>3:257 0>2:257 0>1:257 0>0:256", View.messages(x, 64));
+        check.due("epoch", 1, x.epoch());
+    }
+
+    /** The bytes of the dropped one have left no trace in the polynomials. */
+    private static void behindADroppedOne(Check check) {
+        SplitVault x = Vaults.small();
+        x.feed(0x0370, 2);
+        x.stopAfter(3);
+        x.refresh();
+        x.resume();
+        check.due("refresh", 7, x.refresh());
+        check.due("shares", "1 13 9", Vaults.shares(x, 3, 0, 0));
         check.due("epoch", 1, x.epoch());
     }
 

@@ -6,6 +6,7 @@ public final class StoreTest {
         threeParts(check);
         messages(check);
         lengths(check);
+        allFiles(check);
         wrongInputs(check);
         wrongStates(check);
         tooFewBytes(check);
@@ -57,6 +58,20 @@ public final class StoreTest {
             check.due("bytes", 0x8877665544332211L << 64 - 8 * length >>> 64 - 8 * length,
                     x.restore(length - 1, -1));
             check.due("pool", 16 - 2 * length, x.pool());
+        }
+    }
+
+    private static void allFiles(Check check) {
+        SplitVault x = Vaults.fed(9, 9, 512);
+        for (int file = 7; file >= 0; file--) {
+            check.due("store", 82, x.store(file, 0x0102030405060708L * (file + 1), 8));
+        }
+        check.due("files", 8, x.files());
+        check.due("pool", 0, x.pool());
+        for (int file = 0; file < 8; file++) {
+            check.due("file " + file, 0x0102030405060708L * (file + 1), x.restore(file, -1));
+            int kept = file;
+            check.illegalState("store of kept file " + file, x, () -> x.store(kept, 1, 1));
         }
     }
 
