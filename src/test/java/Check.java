@@ -1,9 +1,36 @@
 import java.util.concurrent.Callable;
+import java.util.function.Consumer;
+import java.util.function.Supplier;
 
-/** Counts the answers that are not the due ones and tells them; ends the program by that count. */
+/**
+ * Tries sentences of the document one by one, tells those that do not hold with every answer that is
+ * not the due one, and ends the program by their count.
+ */
 final class Check {
+    /** A call whose answer does not matter. */
+    interface Call {
+        void on(SplitVault x);
+    }
+
     private int right = 0;
     private int wrong = 0;
+    private int sentences = 0;
+
+    /** A sentence that compares no answer would hold for every program, so it counts as wrong. */
+    void sentence(String words, Consumer<Check> test) {
+        int rightBefore = right;
+        int wrongBefore = wrong;
+        try {
+            test.accept(this);
+        } catch (RuntimeException e) {
+            note(false, "a call threw " + e);
+        }
+        if (right + wrong == rightBefore + wrongBefore) {
+            note(false, "no answer was compared");
+        }
+        sentences++;
+        System.out.println((wrong == wrongBefore ? "  holds: " : "  BROKEN: ") + words);
+    }
 
     void due(String what, long want, long got) {
         note(want == got, what + " answered " + got + ", due is " + want);
@@ -17,23 +44,50 @@ final class Check {
         note(want.equals(got), what + " answered " + got + ", due is " + want);
     }
 
-    /** The call must throw just this exception and leave all that can be seen of the object. */
-    void refused(String what, Class<? extends Exception> want, SplitVault x, Callable<?> call) {
-        String before = View.of(x);
-        due(what, want.getSimpleName(), outcome(call));
-        due("all that can be seen behind " + what, before, View.of(x));
+    /**
+     * The call must throw just this exception and change nothing: the object is compared with a twin
+     * that was made by the same calls and spared this one, by all that can be seen at once and by all
+     * that later calls answer; and all that once more with a wish that must outlive the call.
+     */
+    void refused(String what, Class<? extends Exception> want, Supplier<SplitVault> made, Call call) {
+        refusedOnce(what, want, made, call);
+        refusedOnce(what + " under a wish", want, () -> Vaults.wishing(made.get(), 1), call);
     }
 
-    void illegalArgument(String what, SplitVault x, Callable<?> call) {
-        refused(what, IllegalArgumentException.class, x, call);
+    private void refusedOnce(String what, Class<? extends Exception> want, Supplier<SplitVault> made, Call call) {
+        SplitVault seen = made.get();
+        due(what, want.getSimpleName(), thrown(seen, call));
+        due("what is seen behind " + what, View.of(made.get()), View.of(seen));
+        SplitVault used = made.get();
+        thrown(used, call);
+        due("what later calls answer behind " + what, View.future(made.get()), View.future(used));
     }
 
-    void illegalState(String what, SplitVault x, Callable<?> call) {
-        refused(what, IllegalStateException.class, x, call);
+    void illegalArgument(String what, Supplier<SplitVault> made, Call call) {
+        refused(what, IllegalArgumentException.class, made, call);
     }
 
-    void unsupported(String what, SplitVault x, Callable<?> call) {
-        refused(what, UnsupportedOperationException.class, x, call);
+    void illegalState(String what, Supplier<SplitVault> made, Call call) {
+        refused(what, IllegalStateException.class, made, call);
+    }
+
+    void unsupported(String what, Supplier<SplitVault> made, Call call) {
+        refused(what, UnsupportedOperationException.class, made, call);
+    }
+
+    void noSuchElement(String what, Supplier<SplitVault> made, Call call) {
+        refused(what, java.util.NoSuchElementException.class, made, call);
+    }
+
+    void outOfBounds(String what, Supplier<SplitVault> made, Call call) {
+        refused(what, IndexOutOfBoundsException.class, made, call);
+    }
+
+    private static String thrown(SplitVault x, Call call) {
+        return outcome(() -> {
+            call.on(x);
+            return "nothing thrown";
+        });
     }
 
     /** The answer as a text, or the exception's name. */
@@ -46,7 +100,7 @@ final class Check {
     }
 
     void end() {
-        System.out.println(right + " answers as due, " + wrong + " not");
+        System.out.println(sentences + " sentences, " + right + " answers as due, " + wrong + " not");
         if (wrong > 0) {
             System.exit(1);
         }

@@ -10,6 +10,7 @@ import java.util.stream.Collectors;
 
 /** The public face: the document's, with its exceptions, and nothing more. */
 public final class FaceTest {
+    private static final Class<?> FACE = SplitVault.class;
     private static final String IAE = "IllegalArgumentException";
     private static final String ISE = "IllegalStateException";
     private static final String UOE = "UnsupportedOperationException";
@@ -38,35 +39,28 @@ public final class FaceTest {
 
     public static void main(String[] args) {
         Check check = new Check();
-        Class<?> face = SplitVault.class;
-        check.due("public and final", Modifier.PUBLIC | Modifier.FINAL,
-                face.getModifiers() & (Modifier.PUBLIC | Modifier.FINAL));
-        methods(check, face);
-        constructors(check, face);
-        fields(check, face);
-        for (Class<?> inside : face.getDeclaredClasses()) {
-            check.due(inside + " is static", true, Modifier.isStatic(inside.getModifiers()));
-        }
+        check.sentence("The face: a public final class", FaceTest::itself);
+        check.sentence("The face: its methods, with the exceptions they throw", FaceTest::methods);
+        check.sentence("The face: its constructor", FaceTest::constructor);
+        check.sentence("The face: its constants", FaceTest::constants);
+        check.sentence("LANGUAGE.md, rule 1: no private method bears the name of a public one", FaceTest::privateNames);
+        check.sentence("LANGUAGE.md, rule 1: classes inside are static", FaceTest::classesInside);
         check.end();
     }
 
-    private static void methods(Check check, Class<?> face) {
+    private static void itself(Check check) {
+        check.due("public and final", Modifier.PUBLIC | Modifier.FINAL, FACE.getModifiers());
+    }
+
+    private static void methods(Check check) {
         Set<String> open = new TreeSet<>();
-        Set<String> openNames = new HashSet<>();
-        for (Method m : face.getDeclaredMethods()) {
+        for (Method m : FACE.getDeclaredMethods()) {
             if (!Modifier.isPrivate(m.getModifiers())) {
                 open.add(told(m));
-                openNames.add(m.getName());
+                check.due(m.getName() + " is public", Modifier.PUBLIC, m.getModifiers());
             }
         }
         check.due("methods", new TreeSet<>(Arrays.asList(METHODS)).toString(), open.toString());
-        for (Method m : face.getDeclaredMethods()) {
-            if (Modifier.isPrivate(m.getModifiers())) {
-                check.due("a private " + m.getName(), false, openNames.contains(m.getName()));
-            } else {
-                check.due(m.getName() + " is public", true, Modifier.isPublic(m.getModifiers()));
-            }
-        }
     }
 
     private static String told(Method m) {
@@ -78,16 +72,16 @@ public final class FaceTest {
         return Arrays.stream(types).map(Class::getSimpleName).collect(Collectors.joining(between));
     }
 
-    private static void constructors(Check check, Class<?> face) {
-        check.due("constructors", 1, face.getDeclaredConstructors().length);
-        Constructor<?> only = face.getDeclaredConstructors()[0];
-        check.due("the constructor is public", true, Modifier.isPublic(only.getModifiers()));
+    private static void constructor(Check check) {
+        check.due("constructors", 1, FACE.getDeclaredConstructors().length);
+        Constructor<?> only = FACE.getDeclaredConstructors()[0];
+        check.due("the constructor is public", Modifier.PUBLIC, only.getModifiers());
         check.due("its parameters", "int, int", names(only.getParameterTypes(), ", "));
     }
 
-    private static void fields(Check check, Class<?> face) {
+    private static void constants(Check check) {
         Set<String> open = new TreeSet<>();
-        for (Field f : face.getDeclaredFields()) {
+        for (Field f : FACE.getDeclaredFields()) {
             if (!Modifier.isPrivate(f.getModifiers())) {
                 open.add(Modifier.toString(f.getModifiers()) + " " + f.getType() + " " + f.getName());
             }
@@ -97,5 +91,24 @@ public final class FaceTest {
         check.due("NONE", -1, SplitVault.NONE);
         check.due("FLIP", 256, SplitVault.FLIP);
         check.due("TIDY", 257, SplitVault.TIDY);
+    }
+
+    private static void privateNames(Check check) {
+        Set<String> open = new HashSet<>();
+        for (Method m : FACE.getMethods()) {
+            open.add(m.getName());
+        }
+        for (Method m : FACE.getDeclaredMethods()) {
+            if (Modifier.isPrivate(m.getModifiers())) {
+                check.due("a private " + m.getName(), false, open.contains(m.getName()));
+            }
+        }
+    }
+
+    private static void classesInside(Check check) {
+        for (Class<?> inside : FACE.getDeclaredClasses()) {
+            check.due(inside + " is static", true, Modifier.isStatic(inside.getModifiers()));
+            check.due(inside + " is not open", false, Modifier.isPublic(inside.getModifiers()));
+        }
     }
 }

@@ -3,8 +3,9 @@ import java.util.concurrent.Callable;
 
 /** All promises at once: long runs of calls, right and wrong, each compared with the model's answer. */
 public final class ModelTest {
+    /** An object is used for no more. */
     private static final int CALLS = 512;
-    private static final int RUNS_PER_SIZE = 12;
+    private static final int RUNS_PER_SIZE = 60;
 
     private final Check check;
     private final Random random;
@@ -12,6 +13,8 @@ public final class ModelTest {
     private final Model y;
     /** A job goes through more often when most bytes are fed. */
     private final int feedWeight;
+    /** Some runs mostly act, others mostly look. */
+    private final int lookWeight;
 
     private ModelTest(Check check, long seed, int parts, int boxes) {
         this.check = check;
@@ -19,40 +22,41 @@ public final class ModelTest {
         x = new SplitVault(parts, boxes);
         y = new Model(parts, boxes);
         feedWeight = 10 + random.nextInt(3) * 30;
+        lookWeight = 20 + random.nextInt(3) * 60;
     }
 
     public static void main(String[] args) {
         Check check = new Check();
-        long seed = 1;
         for (int boxes = 1; boxes <= 10; boxes++) {
-            for (int parts = 1; parts <= boxes + 1; parts++) {
-                for (int run = 0; run < RUNS_PER_SIZE; run++) {
-                    new ModelTest(check, seed++, parts, boxes).run();
-                }
-            }
+            int asked = boxes;
+            check.sentence("All promises: long runs with " + boxes + " boxes asked for", c -> runs(c, asked));
         }
         check.end();
     }
 
-    private void run() {
-        for (int call = 0; call < CALLS; call++) {
-            step();
-            check.due("pool", y.pool.size(), x.pool());
-            check.due("sent", y.sent.size(), x.sent());
-            check.due("stopped", y.unsent != null, x.stopped());
-            check.due("files", y.files(), x.files());
-            check.due("epoch", y.epoch, x.epoch());
-            if (call % 8 == 0 || call > CALLS - 8) {
-                compareWhole();
+    private static void runs(Check check, int boxes) {
+        for (int parts = 1; parts <= boxes + 1; parts++) {
+            for (int run = 0; run < RUNS_PER_SIZE; run++) {
+                new ModelTest(check, (boxes * 16L + parts) * RUNS_PER_SIZE + run, parts, boxes).run();
             }
         }
     }
 
-    private void step() {
-        int kind = random.nextInt(100 + feedWeight);
-        if (kind >= 100) {
+    private void run() {
+        for (int call = 0; call < CALLS; call++) {
+            if (random.nextInt(100 + feedWeight + lookWeight) < lookWeight) {
+                look();
+            } else {
+                act();
+            }
+        }
+    }
+
+    private void act() {
+        int kind = random.nextInt(90 + feedWeight);
+        if (kind >= 90) {
             long bytes = random.nextLong();
-            int m = random.nextInt(8) < 7 ? 8 : around(0, 9);
+            int m = random.nextInt(8) < 7 ? 8 : around(1, 8);
             both("feed(" + bytes + ", " + m + ")", () -> x.feed(bytes, m), () -> y.feed(bytes, m));
         } else if (kind < 25) {
             int file = around(0, 7);
@@ -72,11 +76,9 @@ public final class ModelTest {
             both("stopAfter(" + m + ")", () -> stopProgram(m), () -> stopModel(m));
         } else if (kind < 85) {
             both("resume()", x::resume, y::resume);
-        } else if (kind < 90) {
+        } else {
             int file = around(0, 7);
             both("forget(" + file + ")", () -> x.forget(file), () -> y.forget(file));
-        } else {
-            look();
         }
     }
 
@@ -91,36 +93,32 @@ public final class ModelTest {
     }
 
     private void look() {
-        int file = around(0, 7);
-        int mask = mask();
-        int box = around(1, y.n);
-        int b = around(0, 7);
-        int j = around(0, 64);
+        int file = keptFile();
         int what = around(0, 2);
-        both("restore(" + file + ", " + mask + ")", () -> x.restore(file, mask), () -> y.restore(file, mask));
-        both("share(" + box + ", " + file + ", " + b + ")", () -> x.share(box, file, b), () -> y.share(box, file, b));
-        both("message(" + j + ", " + what + ")", () -> x.message(j, what), () -> y.message(j, what));
-        both("length(" + file + ")", () -> x.length(file), () -> y.length(file));
-        both("need(" + what + ")", () -> x.need(what), () -> y.need(what));
+        switch (random.nextInt(12)) {
+            case 0 -> both("pool()", x::pool, y.pool::size);
+            case 1 -> both("sent()", x::sent, y.sent::size);
+            case 2 -> both("stopped()", x::stopped, () -> y.unsent != null);
+            case 3 -> both("files()", x::files, y::files);
+            case 4 -> both("epoch()", x::epoch, () -> y.epoch);
+            case 5 -> both("length(" + file + ")", () -> x.length(file), () -> y.length(file));
+            case 6 -> both("need(" + what + ")", () -> x.need(what), () -> y.need(what));
+            case 7, 8 -> lookAtMessage(random.nextBoolean() ? around(0, 63) : around(0, y.n), what);
+            case 9 -> restore(file, mask());
+            default -> lookAtShare(around(1, y.n), file, around(0, Math.max(0, lengthOf(file) - 1)));
+        }
     }
 
-    private void compareWhole() {
-        for (int file = 0; file < 8; file++) {
-            int f = file;
-            int mask = mask();
-            both("restore", () -> x.restore(f, mask), () -> y.restore(f, mask));
-            check.due("length", y.length(f), x.length(f));
-            for (int box = 1; box <= y.n; box++) {
-                for (int b = 0; b < y.length(f); b++) {
-                    check.due("share", y.share(box, f, b), x.share(box, f, b));
-                }
-            }
-        }
-        for (int j = 0; j < Math.min(64, y.sent.size()); j++) {
-            for (int what = 0; what <= 2; what++) {
-                check.due("message", y.message(j, what), x.message(j, what));
-            }
-        }
+    private void restore(int file, int mask) {
+        both("restore(" + file + ", " + mask + ")", () -> x.restore(file, mask), () -> y.restore(file, mask));
+    }
+
+    private void lookAtShare(int box, int file, int b) {
+        both("share(" + box + ", " + file + ", " + b + ")", () -> x.share(box, file, b), () -> y.share(box, file, b));
+    }
+
+    private void lookAtMessage(int j, int what) {
+        both("message(" + j + ", " + what + ")", () -> x.message(j, what), () -> y.message(j, what));
     }
 
     private void both(String call, Callable<?> ofProgram, Callable<?> ofModel) {
@@ -151,6 +149,19 @@ public final class ModelTest {
 
     private int mask() {
         return random.nextBoolean() ? random.nextInt() : random.nextInt() | random.nextInt() | random.nextInt();
+    }
+
+    /** Mostly one that is kept, as there is more to see of it. */
+    private int keptFile() {
+        int file = around(0, 7);
+        for (int tries = 0; tries < 3 && lengthOf(file) == 0; tries++) {
+            file = around(0, 7);
+        }
+        return file;
+    }
+
+    private int lengthOf(int file) {
+        return file < 0 || file > 7 ? 0 : y.length(file);
     }
 
     /** Seldom one beside the range. */

@@ -1,79 +1,134 @@
-/** Promises 2 and 3: feed and pool. */
+/** Promises 2 and 3: feed and pool; Terms: the pool. */
 public final class PoolTest {
+    private static final long EIGHT = 0xf1e2d3c4b5a69788L;
+    private static final int[] NO_COUNTS = {Integer.MIN_VALUE, -1, 0, 9, 64, Integer.MAX_VALUE};
+
     public static void main(String[] args) {
         Check check = new Check();
-        wrongCounts(check);
-        order(check);
-        fullPool(check);
-        ringGoesRound(check);
+        check.sentence("Promise 2: puts the m lowest of eight bytes, the lowest one first", PoolTest::lowestFirst);
+        check.sentence("Promise 2: puts them behind the pool", PoolTest::behindThePool);
+        check.sentence("Promise 2: answers how many bytes the pool has then", PoolTest::answers);
+        check.sentence("Promise 2: IllegalArgumentException: m is not 1 .. 8", PoolTest::wrongCounts);
+        check.sentence("Promise 2: UnsupportedOperationException: it would have more than 1000", PoolTest::tooMany);
+        check.sentence("Terms: the pool has at most 1000 bytes, and does have 1000", PoolTest::full);
+        check.sentence("Terms: of both exceptions of feed IllegalArgumentException is thrown", PoolTest::order);
+        check.sentence("Terms: bytes are taken from the front of the pool, also when it has gone round",
+                PoolTest::goesRound);
+        check.sentence("Promise 3: pool tells how many bytes the pool has", PoolTest::counts);
         check.end();
     }
 
-    private static void wrongCounts(Check check) {
-        SplitVault x = new SplitVault(2, 3);
-        for (int m : new int[] {Integer.MIN_VALUE, -1, 0, 9, Integer.MAX_VALUE}) {
-            check.illegalArgument("feed of " + m, x, () -> x.feed(1, m));
+    /** With k = 2 and a file of zeros, box 1 has just the bytes taken. */
+    private static void storedBytes(Check check, SplitVault x, long want, int count) {
+        x.store(0, 0, count);
+        for (int b = 0; b < count; b++) {
+            check.due("byte " + b + " of " + count, want >>> 8 * b & 255, x.share(1, 0, b));
         }
+        x.forget(0);
+    }
+
+    private static void lowestFirst(Check check) {
+        for (int m = 1; m <= 8; m++) {
+            SplitVault x = new SplitVault(2, 2);
+            x.feed(EIGHT, m);
+            check.due("pool", m, x.pool());
+            storedBytes(check, x, EIGHT, m);
+        }
+    }
+
+    private static void behindThePool(Check check) {
+        SplitVault x = new SplitVault(2, 2);
+        x.feed(EIGHT, 8);
+        x.feed(0x11223344, 3);
+        x.feed(-1, 1);
+        storedBytes(check, x, EIGHT, 8);
+        storedBytes(check, x, 0xff223344L, 4);
+    }
+
+    private static void answers(Check check) {
+        SplitVault x = new SplitVault(2, 3);
         int sum = 0;
         for (int m = 1; m <= 8; m++) {
             sum += m;
             check.due("feed of " + m, sum, x.feed(-1, m));
-            check.due("pool", sum, x.pool());
         }
     }
 
-    /** With a file's byte 0 and k = 2, box 1 has just the byte taken. */
+    private static void wrongCounts(Check check) {
+        for (int m : NO_COUNTS) {
+            check.illegalArgument("feed of " + m, () -> new SplitVault(2, 3), x -> x.feed(1, m));
+            check.illegalArgument("feed of " + m + " to 3", () -> Vaults.fed(2, 3, 3), x -> x.feed(1, m));
+        }
+    }
+
+    private static void tooMany(Check check) {
+        for (int have = 993; have <= 1000; have++) {
+            for (int m = 1001 - have; m <= 8; m++) {
+                int before = have;
+                int more = m;
+                check.unsupported("feed of " + m + " to " + have, () -> Vaults.fed(2, 2, before),
+                        x -> x.feed(-1, more));
+            }
+        }
+    }
+
+    private static void full(Check check) {
+        for (int m = 1; m <= 8; m++) {
+            SplitVault x = Vaults.fed(2, 2, 1000 - m);
+            check.due("feed of " + m + " to " + (1000 - m), 1000, x.feed(0, m));
+            check.due("pool", 1000, x.pool());
+            x.store(0, 0, m);
+            check.due("feed again", 1000, x.feed(0, m));
+        }
+    }
+
     private static void order(Check check) {
-        SplitVault x = new SplitVault(2, 2);
-        x.feed(0xf1e2d3c4b5a69788L, 8);
-        x.feed(0x11223344, 3);
-        x.store(0, 0, 8);
-        long first = 0;
-        for (int b = 7; b >= 0; b--) {
-            first = first << 8 | x.share(1, 0, b);
+        for (int m : NO_COUNTS) {
+            check.illegalArgument("feed of " + m + " to 1000", () -> Vaults.fed(2, 2, 1000), x -> x.feed(0, m));
         }
-        check.due("the bytes fed first", 0xf1e2d3c4b5a69788L, first);
-        x.store(1, 0, 3);
-        check.due("next byte", 0x44, x.share(1, 1, 0));
-        check.due("next byte", 0x33, x.share(1, 1, 1));
-        check.due("next byte", 0x22, x.share(1, 1, 2));
-        check.due("pool", 0, x.pool());
     }
 
-    private static void fullPool(Check check) {
-        SplitVault x = Vaults.fed(2, 2, 995);
-        for (int m = 6; m <= 8; m++) {
-            int more = m;
-            check.unsupported("feed of " + m + " to 995", x, () -> x.feed(-1, more));
+    /** 1000 bytes, of which refreshing takes 960, then 960 more: 1960 go through, 64 of them in sight. */
+    private static void goesRound(Check check) {
+        SplitVault x = Vaults.fed(2, 2, 1000);
+        for (int file = 0; file < 8; file++) {
+            x.store(file, 0, 8);
         }
-        check.illegalArgument("feed of 9 to 995", x, () -> x.feed(0, 9));
-        check.due("feed of 5 to 995", 1000, x.feed(0, 5));
-        check.unsupported("feed of 1 to 1000", x, () -> x.feed(0, 1));
-        check.illegalArgument("feed of 0 to 1000", x, () -> x.feed(0, 0));
+        for (int taken = 64; taken < 960; taken += 64) {
+            x.refresh();
+        }
+        check.due("pool", 40, x.pool());
+        Vaults.feed(x, 1000, 960);
         check.due("pool", 1000, x.pool());
-        x.store(0, 0, 3);
-        check.due("pool", 997, x.pool());
-        check.due("feed of 3 to 997", 1000, x.feed(0, 3));
+        for (int file = 0; file < 8; file++) {
+            x.forget(file);
+        }
+        for (int taken = 960; taken < 1048; taken += 8) {
+            x.store(0, 0, 8);
+            for (int b = 0; b < 8; b++) {
+                check.due("byte " + (taken + b), Vaults.byteNumber(taken + b), x.share(1, 0, b));
+            }
+            x.forget(0);
+        }
     }
 
-    /** More bytes go through the pool than it ever holds, and come out in their order. */
-    private static void ringGoesRound(Check check) {
-        SplitVault x = new SplitVault(2, 2);
-        int fed = 0;
-        int taken = 0;
-        for (int round = 0; round < 500; round++) {
-            for (; x.pool() < 993; fed += 7) {
-                long bytes = 0;
-                for (int b = 6; b >= 0; b--) {
-                    bytes = bytes << 8 | (fed + b) * 37 % 251;
-                }
-                x.feed(bytes, 7);
-            }
-            x.store(3, 0, 8);
-            for (int b = 0; b < 8; b++, taken++) {
-                check.due("byte " + taken, taken * 37 % 251, x.share(1, 3, b));
-            }
-            x.forget(3);
-        }
+    private static void counts(Check check) {
+        SplitVault x = Vaults.fed(3, 5, 30);
+        check.due("pool fed", 30, x.pool());
+        x.store(2, 0x0102, 2);
+        check.due("pool behind store", 26, x.pool());
+        x.refresh();
+        check.due("pool behind refresh", 22, x.pool());
+        x.empty(4);
+        check.due("pool behind empty", 22, x.pool());
+        x.rebuild(4, -1);
+        check.due("pool behind rebuild", 10, x.pool());
+        x.stopAfter(0);
+        x.refresh();
+        check.due("pool with a stopped job", 6, x.pool());
+        x.resume();
+        check.due("pool behind a dropped job", 6, x.pool());
+        x.forget(2);
+        check.due("pool behind forget", 6, x.pool());
     }
 }
