@@ -144,7 +144,7 @@ public final class ModelTest {
             case 2 -> (1 + random.nextInt(8)) * y.n;
             default -> random.nextInt(100);
         };
-        return Math.max(-2, contents - 1 + random.nextInt(y.n + 3));
+        return contents - 2 + random.nextInt(y.n + 4);
     }
 
     private int mask() {

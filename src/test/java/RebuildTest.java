@@ -188,8 +188,11 @@ public final class RebuildTest {
         for (int box : NO_BOXES) {
             check.illegalArgument("rebuild(" + box + ")", Vaults::smallEmptied, x -> x.rebuild(box, -1));
         }
-        check.illegalArgument("rebuild(10) of 9", () -> Vaults.emptied(new SplitVault(2, 9), 9),
-                x -> x.rebuild(10, -1));
+        for (int n = 2; n <= 9; n++) {
+            int boxes = n;
+            check.illegalArgument("rebuild(n + 1)", () -> new SplitVault(2, boxes), x -> x.rebuild(boxes + 1, -1));
+            check.illegalArgument("rebuild(0)", () -> new SplitVault(2, boxes), x -> x.rebuild(0, -1));
+        }
     }
 
     private static void filledBox(Check check) {

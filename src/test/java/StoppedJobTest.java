@@ -13,7 +13,10 @@ public final class StoppedJobTest {
         check.sentence("Terms: with FLIP the box is filled", StoppedJobTest::boxFilled);
         check.sentence("Terms: it has sent the first m of its messages", StoppedJobTest::firstMessages);
         check.sentence("Terms: the bytes that a dropped job took are gone", StoppedJobTest::bytesGone);
-        check.sentence("Terms: a dropped job leaves no trace in the next one", StoppedJobTest::noTrace);
+        check.sentence("Terms: a dropped job leaves no trace in a refreshing", StoppedJobTest::refreshBehindDropped);
+        check.sentence("Terms: a dropped job leaves no trace in a storing", StoppedJobTest::storeBehindDropped);
+        check.sentence("Terms: a dropped job leaves no trace in a rebuilding", StoppedJobTest::rebuildBehindDropped);
+        check.sentence("Terms: a dropped job leaves no trace in another box", StoppedJobTest::otherBoxBehindDropped);
         check.sentence("Promise 9: the next job is a whole one behind a finished one", StoppedJobTest::behindFinished);
         check.sentence("Promises 2, 8, 11 to 13, 15 to 19: calls that a stopped job does not hinder",
                 StoppedJobTest::notHindered);
@@ -139,22 +142,32 @@ public final class StoppedJobTest {
         }
     }
 
-    /** The job once more, behind a dropped one, as if the pool had begun with the bytes left. */
-    private static void noTrace(Check check) {
+    private static void refreshBehindDropped(Check check) {
         for (int m = 0; m <= 3; m++) {
             SplitVault x = Vaults.smallStopped(m);
             x.resume();
             check.due("refresh behind a dropped refreshing", 7, x.refresh());
             // 5 + (7 + 42) x, in hexadecimal
-            check.due("share 1", 0x5 ^ 0x45, x.share(1, 0, 0));
-            check.due("share 2", 0x5 ^ 0x8a, x.share(2, 0, 0));
+            check.due("shares", (0x5 ^ 0x45) + " " + (0x5 ^ 0x8a) + " " + (0x5 ^ 0xcf), Vaults.shares(x, 3, 0, 0));
             check.due("epoch", 1, x.epoch());
-            SplitVault y = storing(m);
-            y.resume();
-            check.due("store behind a dropped storing", 7, y.store(7, 0x33, 1));
-            check.due("share", 0x33 ^ 0x42, y.share(1, 7, 0));
-            check.due("share of the other file", 2, y.share(1, 0, 0));
         }
+    }
+
+    private static void storeBehindDropped(Check check) {
+        for (int m = 0; m <= 3; m++) {
+            SplitVault x = storing(m);
+            x.resume();
+            check.due("store behind a dropped storing", 7, x.store(7, 0x33, 1));
+            check.due("shares", (0x33 ^ 0x42) + " " + (0x33 ^ 0x84) + " " + (0x33 ^ 0xc6), Vaults.shares(x, 3, 7, 0));
+            check.due("shares of the other file", "2 11 12", Vaults.shares(x, 3, 0, 0));
+            SplitVault y = Vaults.smallStopped(m);
+            y.resume();
+            y.store(7, 0x33, 1);
+            check.due("shares behind a dropped refreshing", "2 11 12", Vaults.shares(y, 3, 0, 0));
+        }
+    }
+
+    private static void rebuildBehindDropped(Check check) {
         for (int m = 0; m <= 6; m++) {
             SplitVault x = rebuilding(m);
             x.resume();
@@ -165,6 +178,30 @@ public final class StoppedJobTest {
             check.due("messages", View.messages(whole, 8), View.messages(x, 8));
             check.due("share", 12, x.share(3, 0, 0));
         }
+        for (int m = 0; m <= 3; m++) {
+            SplitVault x = Vaults.smallStopped(m);
+            x.resume();
+            x.empty(3);
+            x.feed(0x99, 1);
+            check.due("rebuild behind a dropped refreshing", 8, x.rebuild(3, -1));
+            check.due("shares", "2 11 12", Vaults.shares(x, 3, 0, 0));
+        }
+    }
+
+    /** The other box gets its own share, not one of the box whose rebuilding was dropped. */
+    private static void otherBoxBehindDropped(Check check) {
+        SplitVault x = Vaults.fed(2, 4, 20);
+        x.store(0, 9, 1);
+        String before = Vaults.shares(x, 4, 0, 0);
+        x.empty(2);
+        x.empty(4);
+        x.stopAfter(6);
+        x.rebuild(4, -1);
+        x.resume();
+        x.rebuild(2, -1);
+        check.due("box 4", SplitVault.NONE, x.share(4, 0, 0));
+        x.rebuild(4, -1);
+        check.due("shares", before, Vaults.shares(x, 4, 0, 0));
     }
 
     private static void behindFinished(Check check) {
