@@ -44,12 +44,16 @@ public final class FaceTest {
         check.sentence("The face: its constructor", FaceTest::constructor);
         check.sentence("The face: its constants", FaceTest::constants);
         check.sentence("LANGUAGE.md, rule 1: no private method bears the name of a public one", FaceTest::privateNames);
-        check.sentence("LANGUAGE.md, rule 1: classes inside are static", FaceTest::classesInside);
+        check.sentence("LANGUAGE.md, rule 1: classes inside are static, and private or package-visible",
+                FaceTest::classesInside);
         check.end();
     }
 
     private static void itself(Check check) {
         check.due("public and final", Modifier.PUBLIC | Modifier.FINAL, FACE.getModifiers());
+        check.due("its package", "", FACE.getPackageName());
+        check.due("what it extends", Object.class.getName(), FACE.getSuperclass().getName());
+        check.due("what it implements", 0, FACE.getInterfaces().length);
     }
 
     private static void methods(Check check) {
@@ -108,7 +112,7 @@ public final class FaceTest {
     private static void classesInside(Check check) {
         for (Class<?> inside : FACE.getDeclaredClasses()) {
             check.due(inside + " is static", true, Modifier.isStatic(inside.getModifiers()));
-            check.due(inside + " is not open", false, Modifier.isPublic(inside.getModifiers()));
+            check.due(inside + " is not open", 0, inside.getModifiers() & (Modifier.PUBLIC | Modifier.PROTECTED));
         }
     }
 }
